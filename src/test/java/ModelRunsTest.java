@@ -15,6 +15,7 @@ public final class ModelRunsTest {
     private final int mostStrength;
     private final int mostNumber;
     private final int stations;
+    private final boolean tellsOften;
     private int calls = 0;
 
     private ModelRunsTest(Checks checks, int seed) {
@@ -25,6 +26,7 @@ public final class ModelRunsTest {
         mostStrength = new int[] {9, 3, 9, 9}[random.nextInt(4)];
         mostNumber = new int[] {3, 12, 40, 1000}[random.nextInt(4)];
         stations = 2 + random.nextInt(5);
+        tellsOften = random.nextInt(8) == 0;
     }
 
     public static void main(String[] args) {
@@ -44,7 +46,9 @@ public final class ModelRunsTest {
         }
         while (calls < CALLS) {
             int kind = random.nextInt(100);
-            if (kind < 5) {
+            if (tellsOften && random.nextInt(3) > 0) {
+                call(3);
+            } else if (kind < 5) {
                 call(0);
             } else if (kind < 7) {
                 call(1);

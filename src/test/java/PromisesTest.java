@@ -19,11 +19,13 @@ public final class PromisesTest {
         promise8Now();
         promise9Sends();
         promise10WaitOf();
+        promise10WaitIsTheRestByWindowAnd1();
         promise10WaitFreezes();
         promise11Window();
         promise12Failures();
         promise12FailuresStayWithTheStation();
         promise13SilencedTo();
+        promise13AllStationsAreSilenced();
         promise13SilencedLongerStaysSo();
         promise13SilencedStationsWait();
         promise14Frames();
@@ -291,6 +293,25 @@ public final class PromisesTest {
         checks.due("all are used up", 0, x::numbers);
     }
 
+    private static void promise10WaitIsTheRestByWindowAnd1() {
+        for (int i = 0; i <= 1000; i++) {
+            int number = i;
+            int rest = number % 4;
+            int restOfClass1 = number % 8;
+            checks.due("number " + number, rest == 0 ? -1 : rest - 1, () -> firstWait(0, number));
+            checks.due("number " + number, restOfClass1 == 0 ? -1 : restOfClass1 - 1, () -> firstWait(1, number));
+        }
+    }
+
+    private static int firstWait(int itsClass, int number) {
+        BackofficeAir x = pair(5);
+        x.setClass(0, itsClass);
+        x.tell(number);
+        x.frame(0, 1, 1);
+        x.pass(1);
+        return x.waitOf(0);
+    }
+
     private static void promise10WaitFreezes() {
         BackofficeAir x = pair(5);
         x.setStrength(0, 2, 1);
@@ -379,6 +400,10 @@ public final class PromisesTest {
         x.pass(1);
         checks.due("a broken request is a failure", 1, () -> x.failures(0));
         checks.due("and ends the sending", false, () -> x.sends(0));
+        x.setStrength(0, 2, 1);
+        x.pass(3);
+        checks.due("the next request is a new one", 0, () -> x.failures(0));
+        checks.due("and its part arrives", 2, () -> x.delivered(0));
     }
 
     private static void promise12FailuresStayWithTheStation() {
@@ -418,6 +443,29 @@ public final class PromisesTest {
         x.pass(1);
         checks.due("nor by a broken request", 15, () -> x.silencedTo(2));
         checks.due("that failed", 1, () -> x.failures(4));
+    }
+
+    private static void promise13AllStationsAreSilenced() {
+        for (int i = 0; i < 36; i++) {
+            int sender = i / 6;
+            int goal = i % 6;
+            if (sender == goal) {
+                continue;
+            }
+            BackofficeAir x = new BackofficeAir();
+            x.setReserve(1);
+            for (int one = 0; one < 6; one++) {
+                if (one != goal) {
+                    x.setStrength(goal, one, 1);
+                }
+            }
+            x.frame(sender, goal, 1);
+            x.pass(1);
+            for (int one = 0; one < 6; one++) {
+                int s = one;
+                checks.due("silenced", s == sender || s == goal ? 0 : 3, () -> x.silencedTo(s));
+            }
+        }
     }
 
     private static void promise13SilencedLongerStaysSo() {
@@ -501,6 +549,11 @@ public final class PromisesTest {
         checks.due("the next frame is the first", 3, () -> y.partsLeft(0));
         y.pass(4);
         checks.due("0 without frames", 0, () -> y.partsLeft(0));
+        y.frame(0, 2, 3);
+        y.pass(29);
+        checks.due("all are left before the fifth failure", 7, () -> y.partsLeft(0));
+        y.pass(1);
+        checks.due("0 after a drop", 0, () -> y.partsLeft(0));
     }
 
     private static void promise15PartsThatWereBrokenAreLeft() {
