@@ -1,4 +1,4 @@
-/** The promises 9 to 20: how stations stand. */
+/** The promises 9 to 20: how stations stand; and what is not promised. */
 final class AnswerSentences {
     private static final String AS_TOLD = "Throws `IndexOutOfBoundsException` as told";
 
@@ -21,6 +21,7 @@ final class AnswerSentences {
         airtime();
         airtimeBySendings();
         numbers();
+        notPromised();
     }
 
     private void sends() {
@@ -275,5 +276,14 @@ final class AnswerSentences {
         y.frame(0, 1, 1);
         y.pass(10);
         of.due("not less than none", 0, y::numbers);
+    }
+
+    private void notPromised() {
+        of.in("Not promised");
+        of.tells("How the state is held inside the object is free, as are the speed of each call, the text of toString "
+            + "and the behaviour of equals and hashCode.");
+        of.tells("Use of one object from several threads at once is not promised to be safe.");
+        of.tells("Nothing is promised beyond the answers and state changes described above, and nothing about an object "
+            + "after its 512th call.");
     }
 }

@@ -1,40 +1,30 @@
+import java.io.IOException;
 import java.lang.reflect.Constructor;
 import java.lang.reflect.Field;
 import java.lang.reflect.Method;
 import java.lang.reflect.Modifier;
+import java.nio.charset.StandardCharsets;
+import java.nio.file.Files;
+import java.nio.file.Path;
+import java.util.TreeMap;
 import java.util.TreeSet;
+import java.util.regex.Matcher;
+import java.util.regex.Pattern;
 
-/** The class shows the document's face, with its throws clauses, and nothing else. */
+/** The class shows the face that ../shared/DOC.md writes out, with its throws clauses, and nothing else. */
 public final class FaceTest {
-    private static final String B = "IndexOutOfBoundsException";
-    private static final String A = "IllegalArgumentException";
-    private static final String S = "IllegalStateException";
-
-    private static final String[] FACE = {
-        "int setStrength(int int int) " + B + " " + A,
-        "int setClass(int int) " + B + " " + A,
-        "int setReserve(int) " + A,
-        "int tell(int) " + A + " " + S,
-        "int frame(int int int) " + B + " " + A + " " + S,
-        "int pass(int) " + A,
-        "int now()",
-        "boolean sends(int) " + B,
-        "int waitOf(int) " + B,
-        "int window(int) " + B,
-        "int failures(int) " + B,
-        "int silencedTo(int) " + B,
-        "int frames(int) " + B,
-        "int partsLeft(int) " + B,
-        "int delivered(int) " + B,
-        "int dropped(int) " + B,
-        "int airtime(int) " + B,
-        "int airtimeBySendings(int) " + B,
-        "int numbers()",
-    };
+    private static final Path DOCUMENT = Path.of("..", "shared", "DOC.md");
+    private static final Pattern METHOD =
+        Pattern.compile("public (boolean|int) (\\w+)\\(([^)]*)\\)(?: throws ([\\w, ]+))?;");
+    private static final Pattern CONSTANT = Pattern.compile("public static final int (\\w+) = (-?\\d+);");
 
     private static final Checks checks = new Checks();
+    private static final TreeSet<String> methods = new TreeSet<>();
+    private static final TreeSet<String> names = new TreeSet<>();
+    private static final TreeMap<String, Integer> constants = new TreeMap<>();
 
-    public static void main(String[] args) {
+    public static void main(String[] args) throws IOException {
+        readTheFace();
         Class<?> its = BackofficeAir.class;
         checks.due("the class", "public final", () -> Modifier.toString(its.getModifiers()));
         methods(its);
@@ -44,18 +34,53 @@ public final class FaceTest {
         checks.close("FaceTest");
     }
 
-    private static void methods(Class<?> its) {
-        TreeSet<String> want = new TreeSet<>();
-        for (String method : FACE) {
-            want.add("public " + method);
+    /** Takes each line of the face out of the document; a line of another form is a fault. */
+    private static void readTheFace() throws IOException {
+        String document = Files.readString(DOCUMENT, StandardCharsets.UTF_8);
+        int start = document.indexOf("```java\n");
+        String face = document.substring(start + 8, document.indexOf("```\n", start + 8));
+        StringBuilder rest = new StringBuilder();
+        for (String line : face.lines().map(String::strip).toList()) {
+            Matcher method = METHOD.matcher(line);
+            Matcher constant = CONSTANT.matcher(line);
+            if (method.matches()) {
+                methods.add(methodOfTheFace(method));
+                names.add(method.group(2));
+                headIsTheSame(document, line);
+            } else if (constant.matches()) {
+                constants.put(constant.group(1), Integer.parseInt(constant.group(2)));
+            } else {
+                rest.append(line).append('\n');
+            }
         }
+        checks.due("the other lines of the face",
+            "public final class BackofficeAir {\npublic BackofficeAir();\n}\n", rest::toString);
+        checks.due("methods of the face", 19, methods::size);
+        checks.due("constants of the face", 1, constants::size);
+    }
+
+    /** A promise's head tells its call once more; it must not tell another one. */
+    private static void headIsTheSame(String document, String line) {
+        String head = "\n`" + line.replace("public ", "").replace(";", "") + "`: ";
+        checks.due("a promise has the head " + head.strip(), true, () -> document.contains(head));
+    }
+
+    private static String methodOfTheFace(Matcher method) {
+        String types = method.group(3).replaceAll(" \\w+(, |$)", " ").trim();
+        String thrown = method.group(4) == null ? "" : method.group(4).replace(",", "");
+        return ("public " + method.group(1) + " " + method.group(2) + "(" + types + ") " + thrown).trim();
+    }
+
+    private static void methods(Class<?> its) {
         TreeSet<String> got = new TreeSet<>();
         for (Method method : its.getDeclaredMethods()) {
             if (!Modifier.isPrivate(method.getModifiers()) && !method.isSynthetic()) {
                 got.add(told(method));
+            } else {
+                checks.due("the private name " + method.getName(), false, () -> names.contains(method.getName()));
             }
         }
-        checks.due("the methods", want, () -> got);
+        checks.due("the methods", methods, () -> got);
     }
 
     private static String told(Method method) {
@@ -75,11 +100,14 @@ public final class FaceTest {
 
     private static void fields(Class<?> its) {
         for (Field field : its.getDeclaredFields()) {
-            String want = field.getName().equals("NONE") ? "public static final" : "private";
-            checks.due("the field " + field.getName(), true,
-                () -> Modifier.toString(field.getModifiers()).startsWith(want));
+            boolean isConstant = constants.containsKey(field.getName());
+            checks.due("the field " + field.getName(), true, () -> Modifier.toString(field.getModifiers())
+                .startsWith(isConstant ? "public static final" : "private"));
         }
-        checks.due("NONE is there", "int", () -> its.getField("NONE").getType().getName());
+        constants.forEach((name, value) -> {
+            checks.due(name + " is there", "int", () -> its.getField(name).getType().getName());
+            checks.due(name, value, () -> its.getField(name).getInt(null));
+        });
     }
 
     private static void constructors(Class<?> its) {
@@ -95,17 +123,8 @@ public final class FaceTest {
             checks.due("the class inside " + inside.getSimpleName(), true, () -> Modifier.isStatic(modifiers)
                 && !Modifier.isPublic(modifiers) && !Modifier.isProtected(modifiers));
             for (Method method : inside.getDeclaredMethods()) {
-                checks.due("the name " + method.getName(), false, () -> isOfTheFace(method.getName()));
+                checks.due("the name " + method.getName(), false, () -> names.contains(method.getName()));
             }
         }
-    }
-
-    private static boolean isOfTheFace(String name) {
-        for (String method : FACE) {
-            if (method.contains(" " + name + "(")) {
-                return true;
-            }
-        }
-        return false;
     }
 }

@@ -12,6 +12,8 @@ import java.util.concurrent.Callable;
  */
 final class Sentences {
     private static final Path DOCUMENT = Path.of("..", "shared", "DOC.md");
+    private static final String FACE = "```java [^`]*```";
+    private static final String HEAD_OF_CALL = "`[A-Za-z ]+\\([^`]*`:";
 
     private final Checks checks = new Checks();
     private final Map<String, String> left = new LinkedHashMap<>();
@@ -50,14 +52,12 @@ final class Sentences {
         checks.due("'" + sentence + "': " + name, want, call);
     }
 
-    /** Whether nothing but the heads of the calls, which FaceTest looks at, is left of these sections. */
-    void allAreTaken(String... titles) {
+    /** Whether nothing is left of any section but the face and the heads of the calls, which FaceTest looks at. */
+    void allAreTaken() {
         isCurrentTested();
-        for (String title : titles) {
-            String heads = "`[A-Za-z ]+\\([^`]*`:";
-            checks.due("sentences without a test in " + title, "",
-                () -> left.get(title).replaceAll(heads, "").strip());
-        }
+        checks.due("the sections", 25, left::size);
+        left.forEach((title, text) -> checks.due("sentences without a test in " + title, "",
+            () -> text.replaceAll(FACE, "").replaceAll(HEAD_OF_CALL, "").strip()));
     }
 
     void close(String test) {
